@@ -7,6 +7,7 @@ public final class GraphWriter {
     public static final int FULL = -2;
     public static final int ABORTED = -3;
 
+    private static final long STREAM_HEAD = 0xACED0005L;
     private static final int STREAM_LIMIT = 1400;
     private static final int WAITING_LIMIT = 255;
     private static final int CLASS_LIMIT = 6;
@@ -74,6 +75,8 @@ public final class GraphWriter {
     private int made;
 
     public GraphWriter() {
+        out.forgetHandles();
+        out.put(STREAM_HEAD, 4);
     }
 
     public int define(int number, int kind, int superclass, long id) {
@@ -352,7 +355,7 @@ public final class GraphWriter {
     }
 
     private void writeObject(int given, boolean unshared, int depth) {
-        // After an abort no handle is left to end a ring of objects, so nothing may go on.
+        // Nothing more would be put, so the rest of the graph is spared.
         if (out.outcome != DONE) {
             return;
         }
@@ -614,11 +617,6 @@ public final class GraphWriter {
         private int lengthBefore;
         private int waitsBefore;
         private int handlesBefore;
-
-        Out() {
-            Arrays.fill(last, NONE);
-            put(0xACED0005L, 4);
-        }
 
         void begin() {
             System.arraycopy(last, 0, lastBefore, 0, KEYS);

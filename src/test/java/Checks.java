@@ -61,12 +61,16 @@ final class Checks {
 
     /** Makes the stream as long as is said, with no data waiting and no handles left, in some 200 calls at most. */
     static void fillTo(GraphWriter x, int length) {
-        while (length - x.count(0) - x.count(1) >= 14) {
-            x.data(0x1112131415161718L, 8);
+        int reached = x.count(0);
+        int waiting = x.count(1);
+        while (length - reached - waiting >= 14) {
+            int before = waiting;
+            waiting = x.data(0x1112131415161718L, 8);
+            reached += waiting < before ? 257 : 0;
         }
-        x.reset();
-        while (x.count(0) < length && x.write(-1, false) > 0) {
-            continue;
+        reached = x.reset();
+        while (reached > 0 && reached < length) {
+            reached = x.write(-1, false);
         }
         due("the length that was filled to", x.count(0), length);
     }

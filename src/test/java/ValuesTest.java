@@ -49,7 +49,8 @@ public final class ValuesTest {
         x.field(0, 1, 4, false);
         x.field(0, 0, 5, false);
         x.instance(0);
-        x.write(0, false);
+        int descriptors = 2 * (4 + 8 + 1 + 2 + 1) + 6 * 4 + 1;
+        Checks.due("a byte for each that is due", x.write(0, false), 4 + 1 + descriptors + 18);
         Checks.dueEnd("first values", x, "0000000000000000 00000000 0000 00 00 0000");
         for (int slot = 0; slot < 6; slot++) {
             Checks.due("set slot " + slot, x.set(0, slot, 0x0123456789ABCDEFL), 0);

@@ -21,6 +21,7 @@ public final class WriteTest {
         aborts();
         abortAfterData();
         deepest();
+        allThatHaveHandles();
         Checks.end();
     }
 
@@ -242,6 +243,14 @@ public final class WriteTest {
             Checks.due("ring handle of " + object, x.handle(object), 2 + (15 - object) % 12);
         }
         Checks.dueEnd("the ring closes", x, "73 71 007E0000 71 007E0002");
+        GraphWriter y = new GraphWriter();
+        for (int object = 0; object < 12; object++) {
+            y.array(true, 1);
+            y.set(object, 0, object - 1);
+        }
+        y.set(0, 0, 11);
+        Checks.due("refs in one another", y.write(11, false), 4 + 35 + 12 * 5 + 11 * 5 + 5);
+        Checks.due("handle of the innermost", y.handle(0), 12);
     }
 
     private static void unsharedInside() {
@@ -318,5 +327,35 @@ public final class WriteTest {
         int parts = 12 * (1 + 5) + 11 * 5 + 1;
         Checks.due("all", x.write(11, false), 4 + descriptors + parts);
         Checks.due("handle of the last", x.handle(0), 6 + 1 + 11);
+    }
+
+    /** All six classes, both array descriptors, the one above constants, both type texts, all objects and names. */
+    private static void allThatHaveHandles() {
+        GraphWriter x = new GraphWriter();
+        for (int number = 0; number < 5; number++) {
+            x.define(number, 1, -1, 0);
+        }
+        x.define(5, 3, -1, 0);
+        x.field(4, 0, 6, false);
+        x.field(4, 1, 7, false);
+        for (int number = 0; number < 5; number++) {
+            x.instance(number);
+        }
+        x.array(false, 0);
+        x.array(true, 0);
+        for (int object = 7; object < 12; object++) {
+            x.constant(5, object);
+        }
+        for (int object = 11; object >= 0; object--) {
+            x.write(object, false);
+        }
+        Checks.due("all handles", x.count(2), 6 + 2 + 1 + 2 + 12 + 5);
+        for (int object = 0; object < 12; object++) {
+            int before = x.count(0);
+            Checks.due("reference to " + object, x.write(object, false), before + 5);
+            Checks.due("its last byte", x.byteAt(before + 4), x.handle(object));
+        }
+        Checks.due("handle of the first constant", x.handle(11), 2);
+        Checks.due("handle of the last instance", x.handle(0), 27);
     }
 }
