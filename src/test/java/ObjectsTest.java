@@ -1,136 +1,215 @@
-/** Promises 4 to 7, 16 and 17: instance, text, array, constant, and what count and object tell of them. */
+/** The sentences of promises 4 to 7: instance, text, array, constant. */
 public final class ObjectsTest {
+    private static final int LOWEST = Integer.MIN_VALUE;
+    private static final int HIGHEST = Integer.MAX_VALUE;
+
     public static void main(String[] args) {
-        instances();
-        texts();
-        arrays();
-        constants();
-        fullAfterTests();
-        looks();
+        Checks.section("Promise 4: instance");
+        Checks.sentence("Makes an INSTANCE of a class that is not CONSTANT.", ObjectsTest::instances);
+        Checks.sentence("12 objects are there: FULL [instance]", ObjectsTest::fullInstance);
+        Checks.sentence("(so for the three calls below, after their tests). [text]", ObjectsTest::fullText);
+        Checks.sentence("(so for the three calls below, after their tests). [array]", ObjectsTest::fullArray);
+        Checks.sentence("(so for the three calls below, after their tests). [constant]", ObjectsTest::fullConstant);
+        Checks.sentence("Answers its number.", ObjectsTest::instanceAnswers);
+        Checks.section("Promise 5: text");
+        Checks.sentence("Makes a TEXT: the bytes of the number from the highest to the lowest, 0 left out;",
+            ObjectsTest::texts);
+        Checks.sentence("one above 127: REFUSED.", ObjectsTest::textsAbove127);
+        Checks.sentence("Answers its number.", ObjectsTest::textAnswers);
+        Checks.section("Promise 6: array");
+        Checks.sentence("refs false: INTS of length 0 .. 6;", ObjectsTest::intsLengths);
+        Checks.sentence("true: REFS of length 0 .. 4.", ObjectsTest::refsLengths);
+        Checks.sentence("Answers its number.", ObjectsTest::arrayAnswers);
+        Checks.section("Promise 7: constant");
+        Checks.sentence("Makes a CONSTANT of a CONSTANT class;", ObjectsTest::constantClasses);
+        Checks.sentence("name 0 .. 25.", ObjectsTest::constantNames);
+        Checks.sentence("Answers its number.", ObjectsTest::constantAnswers);
         Checks.end();
     }
 
-    private static void instances() {
+    /** Classes 0 .. 4, each of the kind of its number. */
+    private static GraphWriter withClasses() {
         GraphWriter x = new GraphWriter();
         for (int kind = 0; kind < 5; kind++) {
             x.define(kind, kind, -1, 0);
         }
-        Checks.due("instance(-1)", x.instance(-1), -1);
-        Checks.due("instance(6)", x.instance(6), -1);
-        Checks.due("instance of a class not defined", x.instance(5), -1);
-        Checks.due("instance of a constant class", x.instance(3), -1);
-        Checks.due("plain instance", x.instance(0), 0);
-        Checks.due("serial instance", x.instance(1), 1);
-        Checks.due("custom instance", x.instance(2), 2);
-        Checks.due("record instance", x.instance(4), 3);
-        Checks.due("objects", x.count(3), 4);
-        Checks.due("class", x.object(3, 1), 4);
+        return x;
+    }
+
+    private static GraphWriter withObjects(int count) {
+        GraphWriter x = withClasses();
+        x.field(1, 0, 7, false);
+        for (int object = 0; object < count; object++) {
+            Checks.due("object " + object, x.text(0x41 + object), object);
+        }
+        return x;
+    }
+
+    private static void instances() {
+        for (int kind = 0; kind < 5; kind++) {
+            GraphWriter x = withClasses();
+            Checks.due("instance of kind " + kind, x.instance(kind), kind == 3 ? -1 : 0);
+            Checks.due("its sort", x.object(0, 0), kind == 3 ? -1 : 0);
+            Checks.due("its class", x.object(0, 1), kind == 3 ? -1 : kind);
+            Checks.due("objects", x.count(3), kind == 3 ? 0 : 1);
+        }
+        GraphWriter y = withClasses();
+        for (int number : new int[] {LOWEST, -1, 5, 6, HIGHEST}) {
+            Checks.due("instance of class " + number, y.instance(number), -1);
+        }
+        Checks.due("objects", y.count(3), 0);
+    }
+
+    private static void fullInstance() {
+        Checks.due("the twelfth", withObjects(11).instance(1), 11);
+        Checks.dueUnchanged("the thirteenth", () -> withObjects(12), x -> x.instance(1), -2);
+        GraphWriter x = withObjects(12);
+        Checks.due("of a class not there", x.instance(5), -1);
+        Checks.due("of a constant class", x.instance(3), -1);
+        Checks.due("full", x.instance(1), -2);
+        Checks.due("no object was made of the class", x.field(1, 1, 0, false), 2);
+        x.reset();
+        Checks.due("full after a reset", x.instance(1), -2);
+    }
+
+    private static void fullText() {
+        Checks.due("the twelfth", withObjects(11).text(0x7F), 11);
+        Checks.dueUnchanged("the thirteenth", () -> withObjects(12), x -> x.text(0x7F), -2);
+        Checks.dueUnchanged("an empty one", () -> withObjects(12), x -> x.text(0), -2);
+        Checks.due("with a sign above 127", withObjects(12).text(0x80), -1);
+    }
+
+    private static void fullArray() {
+        Checks.due("the twelfth, ints", withObjects(11).array(false, 6), 11);
+        Checks.due("the twelfth, refs", withObjects(11).array(true, 4), 11);
+        Checks.dueUnchanged("the thirteenth, ints", () -> withObjects(12), x -> x.array(false, 6), -2);
+        Checks.dueUnchanged("the thirteenth, refs", () -> withObjects(12), x -> x.array(true, 4), -2);
+        Checks.dueUnchanged("the thirteenth, of length 0", () -> withObjects(12), x -> x.array(true, 0), -2);
+        Checks.due("too many ints", withObjects(12).array(false, 7), -1);
+        Checks.due("too many refs", withObjects(12).array(true, 5), -1);
+        Checks.due("too few ints", withObjects(12).array(false, -1), -1);
+        Checks.due("too few refs", withObjects(12).array(true, -1), -1);
+    }
+
+    private static void fullConstant() {
+        Checks.due("the twelfth", withObjects(11).constant(3, 25), 11);
+        Checks.dueUnchanged("the thirteenth", () -> withObjects(12), x -> x.constant(3, 25), -2);
+        Checks.due("of a class not there", withObjects(12).constant(5, 25), -1);
+        Checks.due("of another class", withObjects(12).constant(1, 25), -1);
+        Checks.due("of a name out of range", withObjects(12).constant(3, 26), -1);
+    }
+
+    private static void instanceAnswers() {
+        GraphWriter x = withClasses();
+        for (int object = 0; object < 12; object++) {
+            Checks.due("refused", x.instance(3), -1);
+            Checks.due("object " + object, x.instance(object % 3), object);
+        }
     }
 
     private static void texts() {
+        long[] numbers = {0, 0x41, 0x4100000000000000L, 0x4100420000430001L, 0x7F7F7F7F7F7F7F7FL, 0x0102030405060708L,
+            0x0041420043440045L};
+        String[] due = {"0000", "0001 41", "0001 41", "0004 41424301", "0008 7F7F7F7F7F7F7F7F", "0008 0102030405060708",
+            "0005 4142434445"};
         GraphWriter x = new GraphWriter();
-        Checks.due("a sign of 128", x.text(0x80), -1);
-        Checks.due("a highest sign of 128", x.text(0x8000000000000000L), -1);
-        Checks.due("a sign of 255", x.text(0x41FF41), -1);
-        Checks.due("no text made", x.count(3), 0);
-        Checks.due("empty text", x.text(0), 0);
-        Checks.due("text with gaps", x.text(0x4100420000430001L), 1);
-        Checks.due("text of 127s", x.text(0x7F7F7F7F7F7F7F7FL), 2);
-        Checks.due("signs 0", x.object(0, 2), 0);
-        Checks.due("signs 1", x.object(1, 2), 4);
-        Checks.due("signs 2", x.object(2, 2), 8);
-        x.write(0, false);
-        x.write(1, false);
-        x.write(2, false);
-        Checks.dueStream("texts", x, "74 0000 74 0004 41424301 74 0008 7F7F7F7F7F7F7F7F");
-    }
-
-    private static void arrays() {
-        GraphWriter x = new GraphWriter();
-        Checks.due("ints of -1", x.array(false, -1), -1);
-        Checks.due("ints of 7", x.array(false, 7), -1);
-        Checks.due("refs of -1", x.array(true, -1), -1);
-        Checks.due("refs of 5", x.array(true, 5), -1);
-        Checks.due("ints of 0", x.array(false, 0), 0);
-        Checks.due("ints of 6", x.array(false, 6), 1);
-        Checks.due("refs of 0", x.array(true, 0), 2);
-        Checks.due("refs of 4", x.array(true, 4), 3);
-        Checks.due("places 1", x.object(1, 2), 6);
-        Checks.due("places 3", x.object(3, 2), 4);
-        x.write(1, false);
-        x.write(3, false);
-        Checks.dueStream("first values of arrays", x, "75 72 0002 5B49 4DBA602676EAB2A5 02 0000 78 70 00000006 "
-            + "00000000 00000000 00000000 00000000 00000000 00000000 "
-            + "75 72 0013 5B4C6A6176612E6C616E672E4F626A6563743B 90CE589F1073296C 02 0000 78 70 00000004 70 70 70 70");
-    }
-
-    private static void constants() {
-        GraphWriter x = new GraphWriter();
-        for (int kind = 0; kind < 5; kind++) {
-            x.define(kind, kind, -1, 0);
-            Checks.due("constant of kind " + kind, x.constant(kind, 0), kind == 3 ? 0 : -1);
+        for (int i = 0; i < numbers.length; i++) {
+            Checks.due("text", x.text(numbers[i]), i);
+            Checks.due("its sort", x.object(i, 0), 1);
+            Checks.dueWritten("text of " + Long.toHexString(numbers[i]), x, i, false, "74" + due[i]);
         }
-        Checks.due("constant(-1)", x.constant(-1, 0), -1);
-        Checks.due("constant(6)", x.constant(6, 0), -1);
-        Checks.due("constant of a class not defined", x.constant(5, 0), -1);
-        Checks.due("constant name -1", x.constant(3, -1), -1);
-        Checks.due("constant name 26", x.constant(3, 26), -1);
-        Checks.due("constant name 25", x.constant(3, 25), 1);
-        Checks.due("constant of a name that is there", x.constant(3, 25), 2);
-        Checks.due("objects", x.count(3), 3);
     }
 
-    private static void fullAfterTests() {
+    private static void textsAbove127() {
         GraphWriter x = new GraphWriter();
-        x.define(0, 1, -1, 0);
-        x.define(1, 3, -1, 0);
+        for (int shift = 0; shift < 64; shift += 8) {
+            for (int sign : new int[] {128, 129, 192, 255}) {
+                Checks.due("sign " + sign + " at " + shift, x.text((long) sign << shift), -1);
+                Checks.due("and others", x.text((long) sign << shift | 0x4141414141414141L & ~(0xFFL << shift)), -1);
+            }
+        }
+        Checks.due("all above", x.text(-1), -1);
+        Checks.due("objects", x.count(3), 0);
+        for (int shift = 0; shift < 64; shift += 8) {
+            Checks.due("sign 127 at " + shift, x.text(127L << shift), shift / 8);
+        }
+    }
+
+    private static void textAnswers() {
+        GraphWriter x = new GraphWriter();
         for (int object = 0; object < 12; object++) {
-            Checks.due("text " + object, x.text(object), object);
+            Checks.due("refused", x.text(0x80), -1);
+            Checks.due("object " + object, x.text(0x41), object);
         }
-        Checks.due("full instance", x.instance(0), -2);
-        Checks.due("full text", x.text(65), -2);
-        Checks.due("full ints", x.array(false, 6), -2);
-        Checks.due("full refs", x.array(true, 4), -2);
-        Checks.due("full constant", x.constant(1, 0), -2);
-        Checks.due("refused instance", x.instance(1), -1);
-        Checks.due("refused instance, not defined", x.instance(2), -1);
-        Checks.due("refused text", x.text(-1), -1);
-        Checks.due("refused ints", x.array(false, 7), -1);
-        Checks.due("refused refs", x.array(true, 5), -1);
-        Checks.due("refused constant", x.constant(0, 0), -1);
-        Checks.due("refused constant name", x.constant(1, 26), -1);
-        Checks.due("objects", x.count(3), 12);
-        Checks.due("a full instance fixes no fields", x.field(0, 0, 0, false), 1);
     }
 
-    private static void looks() {
+    private static void intsLengths() {
         GraphWriter x = new GraphWriter();
-        x.define(0, 0, -1, 0);
-        x.field(0, 0, 0, true);
-        x.define(2, 1, 0, 0);
-        x.field(2, 0, 7, false);
-        x.field(2, 1, 6, true);
-        x.define(4, 3, -1, 0);
-        x.instance(2);
-        x.text(65);
-        x.array(false, 3);
-        x.array(true, 2);
-        x.constant(4, 9);
-        int[] sizes = {3, 1, 3, 2, 0};
-        int[] owners = {2, -1, -1, -1, 4};
-        for (int object = 0; object < 5; object++) {
-            Checks.due("sort of " + object, x.object(object, 0), object);
-            Checks.due("class of " + object, x.object(object, 1), owners[object]);
-            Checks.due("size of " + object, x.object(object, 2), sizes[object]);
-            Checks.due("what 3 of " + object, x.object(object, 3), -1);
-            Checks.due("what -1 of " + object, x.object(object, -1), -1);
+        for (int length : new int[] {LOWEST, -1, 7, 8, HIGHEST}) {
+            Checks.due("length " + length, x.array(false, length), -1);
         }
-        Checks.due("object(-1, 0)", x.object(-1, 0), -1);
-        Checks.due("object(5, 0)", x.object(5, 0), -1);
-        Checks.due("object(12, 0)", x.object(12, 0), -1);
-        Checks.due("count(3)", x.count(3), 5);
-        Checks.due("count(4)", x.count(4), 1 + 4 + 16);
-        Checks.due("count(5)", x.count(5), -1);
-        Checks.due("count(-1)", x.count(-1), -1);
+        Checks.due("objects", x.count(3), 0);
+        for (int length = 0; length <= 6; length++) {
+            Checks.due("length " + length, x.array(false, length), length);
+            Checks.due("its sort", x.object(length, 0), 2);
+            Checks.due("its places", x.object(length, 2), length);
+        }
+    }
+
+    private static void refsLengths() {
+        GraphWriter x = new GraphWriter();
+        for (int length : new int[] {LOWEST, -1, 5, 6, HIGHEST}) {
+            Checks.due("length " + length, x.array(true, length), -1);
+        }
+        Checks.due("objects", x.count(3), 0);
+        for (int length = 0; length <= 4; length++) {
+            Checks.due("length " + length, x.array(true, length), length);
+            Checks.due("its sort", x.object(length, 0), 3);
+            Checks.due("its places", x.object(length, 2), length);
+        }
+    }
+
+    private static void arrayAnswers() {
+        GraphWriter x = new GraphWriter();
+        for (int object = 0; object < 12; object++) {
+            Checks.due("refused", x.array(object % 2 == 0, 7), -1);
+            Checks.due("object " + object, x.array(object % 2 == 0, 3), object);
+        }
+    }
+
+    private static void constantClasses() {
+        for (int kind = 0; kind < 5; kind++) {
+            GraphWriter x = withClasses();
+            Checks.due("constant of kind " + kind, x.constant(kind, 0), kind == 3 ? 0 : -1);
+            Checks.due("its sort", x.object(0, 0), kind == 3 ? 4 : -1);
+            Checks.due("its class", x.object(0, 1), kind == 3 ? 3 : -1);
+        }
+        GraphWriter y = withClasses();
+        for (int number : new int[] {LOWEST, -1, 5, 6, HIGHEST}) {
+            Checks.due("constant of class " + number, y.constant(number, 0), -1);
+        }
+        Checks.due("objects", y.count(3), 0);
+    }
+
+    private static void constantNames() {
+        for (int name : new int[] {LOWEST, -1, 26, HIGHEST}) {
+            GraphWriter x = withClasses();
+            Checks.due("name " + name, x.constant(3, name), -1);
+            Checks.due("objects", x.count(3), 0);
+        }
+        for (int name = 0; name <= 25; name++) {
+            GraphWriter x = withClasses();
+            Checks.due("name " + name, x.constant(3, name), 0);
+            x.write(0, false);
+            Checks.dueEnd("its sign", x, String.format("74 0001 %02X", 'a' + name));
+        }
+    }
+
+    private static void constantAnswers() {
+        GraphWriter x = withClasses();
+        for (int object = 0; object < 12; object++) {
+            Checks.due("refused", x.constant(3, 26), -1);
+            Checks.due("object " + object + ", two of each name", x.constant(3, object / 2), object);
+        }
     }
 }
