@@ -185,6 +185,7 @@ public final class RefusedTest {
             refused("set of object " + object, x -> x.set(object, 0, 1));
             refused("replace of object " + object, x -> x.replace(object, 1));
             refused("replace by object " + object, x -> x.replace(1, object));
+            refused("replace of a replaced one by object " + object, x -> x.replace(6, object));
             refused("extra of object " + object, x -> x.extra(object, 1));
         }
         int[] slots = {1, 3, 0, 2, 2, 0, 3};
