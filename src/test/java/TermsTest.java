@@ -9,6 +9,9 @@ public final class TermsTest {
             TermsTest::utf);
         Checks.sentence("CLASSES 0 .. 5, named by one sign A .. F, are defined or not (not at first).",
             TermsTest::classes);
+        Checks.sentence("One that is has a KIND: 0 PLAIN, 1 SERIAL, 2 CUSTOM, 3 CONSTANT, 4 RECORD;", TermsTest::kinds);
+        Checks.sentence("an ID, a long;", TermsTest::ids);
+        Checks.sentence("a SUPERCLASS or none;", TermsTest::superclasses);
         Checks.sentence("and up to four FIELDS, in the order they were given", TermsTest::fourFields);
         Checks.sentence("a name a .. z, no two of a class alike, a type, TRANSIENT or not.", TermsTest::fieldNames);
         Checks.sentence("Types: 0 B (1 byte), 1 C (2), 2 I (4), 3 J (8), 4 S (2), 5 Z (1), 6 [I, 7 L;",
@@ -83,6 +86,56 @@ public final class TermsTest {
             x.instance(number);
             Checks.dueWritten("sign of class " + number, x, number, false, "73" + Bytes.bare(number, "02") + "70");
         }
+    }
+
+    private static void kinds() {
+        String serial = "73" + Bytes.bare(0, "02") + "70";
+        String custom = "73" + Bytes.bare(0, "03") + "70 77 04 00000000 78";
+        String constant = "7E" + Bytes.bare(0, "12") + Bytes.ENUM + "74 0001 61";
+        String[] written = {"7B 79 74 0001 41 79", serial, custom, constant, serial};
+        for (int kind = 0; kind < 5; kind++) {
+            GraphWriter x = new GraphWriter();
+            Checks.due("kind " + kind, x.define(0, kind, -1, 0), 0);
+            // A record is told from a serial class by what may stand below it.
+            Checks.due("a class below kind " + kind, x.define(1, 1, 0, 0), kind < 3 ? 0 : -1);
+            Checks.due("an instance of kind " + kind, x.instance(0), kind == 3 ? -1 : 0);
+            Checks.due("a constant of kind " + kind, x.constant(0, 0), kind == 3 ? 0 : -1);
+            x.write(0, false);
+            Checks.dueStream("kind " + kind, x, written[kind]);
+        }
+        GraphWriter x = new GraphWriter();
+        Checks.due("kind -1", x.define(0, -1, -1, 0), -1);
+        Checks.due("kind 5", x.define(0, 5, -1, 0), -1);
+    }
+
+    private static void ids() {
+        long[] ids = {0, 1, -1, 1L << 32, Long.MAX_VALUE, Long.MIN_VALUE};
+        int[] kinds = {1, 2, 4};
+        for (long id : ids) {
+            for (int kind : kinds) {
+                GraphWriter x = new GraphWriter();
+                Checks.due("ID " + id, x.define(0, kind, -1, id), 0);
+                x.instance(0);
+                Checks.due("an instance with ID " + id, x.write(0, false), kind == 2 ? 29 : 22);
+                Checks.due("ID " + id + " of kind " + kind, Checks.hex(x, 9).substring(0, 16),
+                    String.format("%016X", id));
+            }
+        }
+    }
+
+    private static void superclasses() {
+        GraphWriter x = new GraphWriter();
+        Checks.due("none", x.define(0, 1, -1, 0), 0);
+        Checks.due("class 0", x.define(1, 1, 0, 0), 0);
+        Checks.due("class 0 again", x.define(2, 1, 0, 0), 0);
+        Checks.due("class -2", x.define(3, 1, -2, 0), -1);
+        Checks.due("itself", x.define(3, 1, 3, 0), -1);
+        x.instance(0);
+        x.instance(1);
+        x.instance(2);
+        Checks.dueWritten("one above", x, 1, false, "73" + Bytes.bare(1, "02") + Bytes.bare(0, "02") + "70");
+        Checks.dueWritten("the same above", x, 2, false, "73" + Bytes.bare(2, "02") + Bytes.back(1));
+        Checks.dueWritten("itself alone", x, 0, false, "73" + Bytes.back(1));
     }
 
     /** Names that fall while the fields are given, so that the descriptor turns their order round. */
